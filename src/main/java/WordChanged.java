@@ -768,9 +768,8 @@ public final class WordChanged {
 
         int proclaim() {
             readText();
-            boolean whole = !broken;
             fed = 0;
-            if (!whole) {
+            if (broken) {
                 return -100 - at;
             }
             int[] former = steps;
@@ -786,21 +785,17 @@ public final class WordChanged {
             made = 0;
             broken = false;
             for (int line = 0; line <= TAPE && !broken; line++) {
-                readLine();
+                readExpression(0, 0);
+                if (!broken && skips('?')) {
+                    add(TEST);
+                    readExpression(0, 0);
+                }
+                add(END);
                 if (broken || at >= fed) {
                     return;
                 }
                 broken = !skips(';');
             }
-        }
-
-        private void readLine() {
-            readExpression(0, 0);
-            if (!broken && skips('?')) {
-                add(TEST);
-                readExpression(0, 0);
-            }
-            add(END);
         }
 
         private void readExpression(int level, int open) {

@@ -78,14 +78,15 @@ public final class AgainstModelTest {
     }
 
     private String expression(int depth) {
-        int what = random.nextInt(depth <= 0 ? 2 : 9);
+        int what = random.nextInt(depth <= 0 ? 2 : 10);
         switch (what) {
-            case 0: return "" + upTo(random.nextBoolean() ? 12 : 9999);
+            case 0: return "" + upTo(random.nextInt(4) != 0 ? 12 : 9999);
             case 1: return "" + "yncpwl".charAt(random.nextInt(6));
             case 2: return "(" + expression(depth - 1) + ")";
             case 3: return "!" + operand(depth - 1);
             case 4: return "-" + operand(depth - 1);
-            default: return operand(depth - 1) + "+-*/%<=>|&".charAt(random.nextInt(10)) + expression(depth - 1);
+            case 5: return operand(depth - 1) + "<=>".charAt(random.nextInt(3)) + operand(depth - 1);
+            default: return operand(depth - 1) + "+-*/%|&".charAt(random.nextInt(7)) + expression(depth - 1);
         }
     }
 
@@ -101,12 +102,12 @@ public final class AgainstModelTest {
             text.append(expression(3));
             if (random.nextBoolean()) text.append('?').append(expression(3));
         }
-        if (random.nextInt(3) == 0) {
+        if (random.nextInt(4) == 0) {
             int at = random.nextInt(text.length() + 1);
             text.insert(at, LETTERS.charAt(random.nextInt(LETTERS.length())));
         }
         if (random.nextInt(6) == 0) text.deleteCharAt(random.nextInt(text.length()));
-        if (text.length() > 60) text.setLength(60);
+        if (text.length() > 60 && random.nextInt(10) != 0) text.setLength(60);
         return text.toString();
     }
 
@@ -142,6 +143,7 @@ public final class AgainstModelTest {
         int shelf = upTo(1);
         int post = upTo(6);
         call("hears", shelf, wild(post - 2));
+        call("mishears", wild(upTo(6) * 10 + upTo(6)));
         call("letsIn", shelf, pm());
         call("patrol", shelf, upTo(4) - 1);
         call("holdsFor", shelf);
@@ -164,6 +166,31 @@ public final class AgainstModelTest {
         }
     }
 
+    private void actOnce() throws Exception {
+        int bodies = 1 + upTo(random.nextInt(20) == 0 ? 20 : 1);
+        for (int i = 0; i < bodies; i++) call("body", wild(upTo(7)));
+        call("act", upTo(Math.max(1, model.count(3))), wild(upTo(3)), random.nextInt(9) - 4);
+        call("count", 4);
+        for (int i = 0; i < 11; i++) call("trace", i);
+        call("act", upTo(Math.max(1, model.count(3))), upTo(3), random.nextInt());
+        call("keep", 4 + upTo(1), wild(upTo(Math.max(1, model.count(3)))));
+        for (int i = 0; i < 3; i++) call("taken", 4 + upTo(1), wild(upTo(7)));
+    }
+
+    private void useRows() throws Exception {
+        int sort = upTo(4);
+        call("row", 4, sort, wild(upTo(12)));
+        call("row", 5, random.nextInt(6) == 0 ? upTo(4) : sort, wild(upTo(12)));
+        for (int i = 0; i < 12; i++) call("put", 4 + upTo(1), upTo(12), random.nextLong() >> upTo(63));
+        call("shift", 4 + upTo(1), wild(upTo(4)), 4 + upTo(1), wild(upTo(4)), wild(upTo(6)));
+        for (int i = 0; i < 12; i++) call("element", 4 + upTo(1), i);
+        if (model.count(0) < 7) {
+            call("row", 4, 0, 1 + upTo(8));
+            for (int i = 0; i < 9; i++) call("put", 4, i, wild(upTo(12)));
+            call("posts", 4, wild(upTo(3)), wild(1 + upTo(2)));
+        }
+    }
+
     private void anyCall() throws Exception {
         String name = names.get(random.nextInt(names.size()));
         if ((name.equals("which") || name.equals("route")) && random.nextInt(8) != 0) return;
@@ -171,6 +198,7 @@ public final class AgainstModelTest {
         long[] args = new long[n];
         int most = random.nextBoolean() ? 3 : 60;
         for (int i = 0; i < n; i++) args[i] = wild(upTo(i == 0 ? 5 : most));
+        if (name.equals("row") || name.equals("keep") || name.equals("put")) args[0] = 4 + upTo(1);
         call(name, args);
     }
 
@@ -178,6 +206,12 @@ public final class AgainstModelTest {
         int posts = upTo(7);
         for (int i = 0; i < posts; i++) call("post", upTo(99), upTo(random.nextBoolean() ? 20 : 99));
         if (random.nextBoolean()) for (int i = 0; i < 12; i++) mendOne();
+        if (random.nextInt(8) != 0) {
+            layRoute(0);
+            layRoute(1);
+            laySaid(2);
+            laySaid(3);
+        }
         while (calls < CALLS - 70) {
             switch (random.nextInt(12)) {
                 case 0: layRoute(upTo(1)); break;
@@ -189,15 +223,11 @@ public final class AgainstModelTest {
                 case 8:
                     call("change", wild(upTo(3)));
                     call("tell", wild(upTo(6)));
-                    call("stay", wild(1 + upTo(80)));
+                    call("stay", wild(1 + upTo(random.nextInt(3) == 0 ? 998 : 80)));
                     call("ask", upTo(6), upTo(3));
                     break;
-                case 9:
-                    call("body", wild(upTo(7)));
-                    call("act", upTo(20), upTo(3), random.nextInt());
-                    call("trace", upTo(10));
-                    call("keep", upTo(5), wild(upTo(10)));
-                    break;
+                case 9: if (random.nextBoolean()) actOnce(); break;
+                case 10: if (random.nextBoolean()) useRows(); break;
                 default: for (int i = 0; i < 6; i++) anyCall();
             }
         }

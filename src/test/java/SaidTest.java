@@ -1,0 +1,202 @@
+/** Promises 22 to 26: judge, which, when, oddWord, drawn. */
+public final class SaidTest {
+    private static final Due DUE = new Due("said");
+
+    /** The ROUTE 1, 2, 3 on shelf 0, AT 100: heard in 110, 131, 157; OLD 0 and NEW 1, HOLDS 60. */
+    private static WordChanged said(long... threes) {
+        WordChanged x = Camp.four();
+        x.mend(0, 10, 100);
+        Camp.bytes(x, 0, 1, 2, 3);
+        return Camp.shorts(x, 1, threes);
+    }
+
+    private static void wrongShelves() {
+        WordChanged x = said(1, 120, 1);
+        Camp.bytes(x, 2, 1, 2, 3);
+        x.keep(3, x.body(0));
+        int[] rs = {-1, 60, 6, 61, 16, 1000, 4, 41, 2, 3, 11, 31, 14, 34, 42, Integer.MAX_VALUE, Integer.MIN_VALUE};
+        int[] dues = {-1, -1, -1, -1, -1, -1, -11, -11, -12, -12, -12, -12, -11, -11, -11, -1, -1};
+        for (int i = 0; i < rs.length; i++) {
+            DUE.is("22 judge(" + rs[i] + ")", x.judge(rs[i]), dues[i]);
+            DUE.is("24 when(" + rs[i] + ")", x.when(rs[i]), dues[i]);
+            DUE.is("25 oddWord(" + rs[i] + ")", x.oddWord(rs[i]), dues[i]);
+        }
+        DUE.is("23 no shelf", x.which(6, 0), -1);
+        DUE.is("23 below", x.which(-1, 0), -1);
+        DUE.is("23 what above", x.which(1, 2), -1);
+        DUE.is("23 what below", x.which(1, -1), -1);
+        DUE.is("23 BAD ahead of -11", x.which(4, 2), -1);
+        DUE.is("23 nothing", x.which(4, 0), -11);
+        DUE.is("23 bytes", x.which(2, 0), -12);
+        DUE.is("23 a body", x.which(3, 0), -12);
+        DUE.is("26 no shelf", x.drawn(6, 1, 1, 0), -1);
+        DUE.is("26 nothing", x.drawn(4, 1, 1, 0), -11);
+        DUE.is("26 shorts", x.drawn(1, 1, 1, 0), -12);
+        DUE.is("26 BAD ahead of -11", x.drawn(4, 1, 0, 0), -1);
+    }
+
+    private static void judged(int want, long... threes) {
+        DUE.is("22 judge of " + java.util.Arrays.toString(threes), said(threes).judge(1), want);
+    }
+
+    private static void promise22Judge() {
+        judged(-2);
+        judged(-2, 1, 109, 0);
+        judged(0, 1, 109, 1);
+        judged(-2, 1, 110, 1);
+        judged(-2, 1, 169, 0);
+        judged(0, 1, 170, 0);
+        judged(-2, 1, 110, 1, 2, 190, 0, 3, 999, 1);
+        judged(1, 1, 110, 1, 2, 191, 0, 3, 999, 1);
+        judged(2, 1, 110, 1, 2, 190, 0, 3, 999);
+        judged(1, 1, 110, 1, 2);
+        judged(0, 1);
+        judged(0, 4, 0, 0);
+        judged(0, -1, 0, 0);
+        judged(0, 1, -1, 0);
+        judged(0, 1, 1000, 1);
+        judged(-2, 1, 999, 1);
+        judged(0, 1, 0, 10);
+        judged(0, 1, 0, -1);
+        judged(0, 1, 0, 2);
+        judged(-2, 0, 99, 0, 0, 100, 1);
+        WordChanged x = said(2, 999, 0);
+        Camp.bytes(x, 0, 1);
+        DUE.is("22 OLD at one not in it", x.judge(1), -2);
+        x.put(1, 2, 1);
+        DUE.is("22 NEW at one not in it", x.judge(1), 0);
+        x.mend(0, 8, 1);
+        DUE.is("22 alike", x.judge(1), -2);
+    }
+
+    private static void promise23Which() {
+        WordChanged x = said();
+        DUE.is("23 all", x.which(1, 0), 6);
+        DUE.is("23 the first", x.which(1, 1), 123);
+        Camp.shorts(x, 1, 3, 105, 1);
+        DUE.is("23 with 3 first", x.which(1, 0), 2);
+        DUE.is("23 the first of them", x.which(1, 1), 312);
+        Camp.shorts(x, 1, 3, 104, 1);
+        DUE.is("23 none", x.which(1, 0), 0);
+        DUE.is("23 none, the first", x.which(1, 1), -2);
+        Camp.shorts(x, 1, 0, 99, 1);
+        DUE.is("23 POST 0", x.which(1, 0), 0);
+        Camp.shorts(x, 1, 1, 110, 1, 2);
+        DUE.is("23 lacks", x.which(1, 0), 0);
+        DUE.is("23 lacks, the first", x.which(1, 1), -2);
+        Camp.shorts(x, 1, 4, 110, 1);
+        DUE.is("23 none", x.which(1, 0), 0);
+        WordChanged y = new WordChanged();
+        for (int i = 0; i < 7; i++) y.post(i, 0);
+        Camp.shorts(y, 1);
+        DUE.is("23 of seven", y.which(1, 0), 720);
+        DUE.is("23 of seven the first", y.which(1, 1), 123456);
+        Camp.shorts(y, 1, 6, 6, 1);
+        DUE.is("23 of seven with 6 first", y.which(1, 0), 120);
+        DUE.is("23 of seven the first of them", y.which(1, 1), 612345);
+        WordChanged z = new WordChanged();
+        Camp.shorts(z, 1);
+        DUE.is("23 no posts", z.which(1, 0), 1);
+        DUE.is("23 no posts, the first", z.which(1, 1), 0);
+    }
+
+    private static void promise24When() {
+        WordChanged x = said();
+        DUE.is("24 nothing said", x.when(1), 0);
+        Camp.shorts(x, 1, 1, 110, 0);
+        DUE.is("24 OLD still", x.when(1), 41);
+        Camp.shorts(x, 1, 1, 110, 0, 2, 72, 1);
+        DUE.is("24 both, just", x.when(1), 41);
+        Camp.shorts(x, 1, 1, 110, 0, 2, 71, 1);
+        DUE.is("24 both, no more", x.when(1), -2);
+        Camp.shorts(x, 1, 1, 9, 1);
+        DUE.is("24 NEW too early", x.when(1), -2);
+        Camp.shorts(x, 1, 1, 10, 1);
+        DUE.is("24 NEW just", x.when(1), 0);
+        Camp.shorts(x, 1, 0, 999, 0);
+        DUE.is("24 late", x.when(1), 940);
+        x.mend(0, 11, 0);
+        DUE.is("24 behind all", x.when(1), -2);
+        x.mend(0, 11, 1);
+        DUE.is("24 the last", x.when(1), 999);
+        Camp.bytes(x, 0, 1);
+        Camp.shorts(x, 1, 2, 999, 0);
+        DUE.is("24 OLD at one not in it", x.when(1), 0);
+        Camp.shorts(x, 1, 2, 999, 1);
+        DUE.is("24 NEW at one not in it", x.when(1), -2);
+        Camp.shorts(x, 1, 1, 999);
+        DUE.is("24 lacks", x.when(1), -2);
+        Camp.shorts(x, 1, 1, 999, 2);
+        DUE.is("24 another word", x.when(1), -2);
+        DUE.is("24 AT stays", x.of(0, 10), 100);
+    }
+
+    private static void promise25OddWord() {
+        WordChanged x = said();
+        DUE.is("25 nothing said", x.oddWord(1), 0);
+        Camp.shorts(x, 1, 1, 999, 7);
+        DUE.is("25 told", x.oddWord(1), 7);
+        Camp.shorts(x, 1, 1, 109, 7);
+        DUE.is("25 too early", x.oddWord(1), -2);
+        Camp.shorts(x, 1, 1, 999, 7, 2, 999, 6);
+        DUE.is("25 two words", x.oddWord(1), -2);
+        Camp.shorts(x, 1, 1, 999, 0);
+        DUE.is("25 OLD as NEW", x.oddWord(1), 0);
+        Camp.shorts(x, 1, 1, 100, 0, 1, 200, 4);
+        DUE.is("25 OLD, then one", x.oddWord(1), 4);
+        Camp.shorts(x, 1, 1, 200, 0, 1, 200, 4);
+        DUE.is("25 OLD too late, then one", x.oddWord(1), -2);
+        Camp.shorts(x, 1, 1, 200);
+        DUE.is("25 lacks", x.oddWord(1), -2);
+        DUE.is("25 NEW stays", x.of(0, 9), 1);
+    }
+
+    private static void promise26Drawn() {
+        WordChanged x = said();
+        DUE.is("26 n 0", x.drawn(0, 1, 0, 0), -1);
+        DUE.is("26 n 31", x.drawn(0, 1, 31, 0), -1);
+        DUE.is("26 what above", x.drawn(0, 1, 1, 2), -1);
+        DUE.is("26 what below", x.drawn(0, 1, 1, -1), -1);
+        DUE.is("26 none misheard", x.drawn(0, 1, 30, 0), 90);
+        Camp.law(x, "12");
+        DUE.is("26 all misheard", x.drawn(0, 1, 30, 0), 0);
+        DUE.is("26 patrols with OLD", x.drawn(0, 1, 30, 1), 120);
+        x.mend(0, 5, 999);
+        x.mend(0, 6, 999);
+        x.mend(0, 7, 1);
+        DUE.is("26 one who knows NEW", x.drawn(0, 1, 30, 1), 90);
+        x.mend(1, 4, 1);
+        DUE.is("26 misheard as itself", x.drawn(0, 1, 30, 1), 120);
+        x.mend(1, 4, 2);
+        Camp.law(x, "6");
+        int z = -77;
+        int right = 0;
+        int letIn = 0;
+        for (int night = 0; night < 25; night++) {
+            for (int i = 0; i < 3; i++) {
+                z = z * 1103515245 + 12345;
+                if ((z >>> 8) % 12 >= 6) {
+                    right++;
+                    letIn += i == 0 ? 1 : 0;
+                }
+            }
+            letIn += 3;
+        }
+        DUE.is("26 by half", x.drawn(0, -77, 25, 0), right);
+        DUE.is("26 by half, patrols", x.drawn(0, -77, 25, 1), letIn);
+        x.mend(0, 6, 109);
+        DUE.is("26 NEW ahead of its draw", x.drawn(0, -77, 25, 1), 75);
+        x.mend(0, 5, 0);
+        DUE.is("26 OLD ahead of its draw", x.drawn(0, -77, 25, 1), 100);
+    }
+
+    public static void main(String[] args) {
+        wrongShelves();
+        promise22Judge();
+        promise23Which();
+        promise24When();
+        promise25OddWord();
+        promise26Drawn();
+        DUE.end();
+    }
+}
