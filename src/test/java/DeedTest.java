@@ -128,6 +128,19 @@ public final class DeedTest {
         DUE.is("33 back to that", x.back(), 13);
     }
 
+    private static void imageOfNoPosts() {
+        WordChanged x = new WordChanged();
+        x.stay(4);
+        DUE.is("32 no posts", x.image(), 4);
+        x.stay(4);
+        x.post(1, 1);
+        x.change(7);
+        x.mend(0, 8, 3);
+        DUE.is("33 no posts", x.back(), 4);
+        DUE.is("33 POST 0 came since", x.of(0, 12), 3);
+        DUE.is("33 it had nothing", x.ask(0, 0), 0);
+    }
+
     private static void promises34And35UndoRedo() {
         WordChanged x = Camp.four();
         DUE.is("34 none", x.undo(), -5);
@@ -177,6 +190,7 @@ public final class DeedTest {
         promise30Ask();
         promise31Led();
         promises32And33Image();
+        imageOfNoPosts();
         promises34And35UndoRedo();
         DUE.end();
     }

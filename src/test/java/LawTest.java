@@ -71,6 +71,10 @@ public final class LawTest {
         fault("------1", -1);
         fault("-------1", 6);
         fault("!-!-!-y", -1);
+        fault("!!!!!!!1", 6);
+        fault("1?((((((1))))))", -1);
+        fault("1?(((((((1", 8);
+        fault(times("1;", 59) + "12", -1);
         fault("((((((!1", 6);
         fault("((((((1-1", 9);
         fault("(((((-(1", 6);
@@ -161,6 +165,7 @@ public final class LawTest {
         given("3;4", 3);
         given("c>7?11;n*2-y+l", 11);
         given("c>8?11;n*2-y+l", 5);
+        given(times("1-1+", 29) + "9-5", 4);
         // The other way round, NEW longer than LIKE: how many letters, not which has more.
         WordChanged y = Camp.four();
         y.mend(1, 3, 9);

@@ -34,6 +34,9 @@ public final class OddsTest {
         Camp.bytes(x, 0, 1);
         right(x, 3, 0, 0, 1);
         right(x, -1, 0, 3, 4);
+        Camp.bytes(x, 0, 3);
+        right(x, 1, 2, 0, 1);
+        right(x, 3, 0, 1, 2);
         Camp.bytes(x, 0);
         right(x, -1, 0, 1, 1);
         right(x, -2, 0, 0, 1);
@@ -139,6 +142,8 @@ public final class OddsTest {
         odds(x, 1, 1, "OLD at one not in it");
         x.mend(0, 5, 100);
         odds(x, 0, 1, "NEW at one not in it");
+        Camp.bytes(x, 0, 3, 1);
+        odds(x, 1, 2, "the first in it");
         DUE.is("20 patrol above", x.odds(0, 4, 0), NONE);
         DUE.is("20 patrol below", x.odds(0, -1, 0), NONE);
         DUE.is("20 part above", x.odds(0, 0, 2), NONE);

@@ -56,6 +56,11 @@ public final class PostsTest {
         DUE.is("3 Y", x.of(2, 1), 5);
         DUE.is("3 COLD", x.of(1, 2), 12);
         DUE.is("3 just so many", x.posts(0, 0, 2), 2);
+        WordChanged just = new WordChanged();
+        Camp.bytes(just, 0, 1, 2, 3, 4, 5, 6);
+        DUE.is("3 to the very end", just.posts(0, 0, 2), 2);
+        DUE.is("3 the last three", just.posts(0, 3, 1), 1);
+        DUE.is("3 COLD of the last", just.of(2, 2), 6);
         Camp.bytes(x, 0, 1, 1, 1, 1, 1, 13);
         DUE.is("3 COLD too much", x.posts(0, 0, 2), 1);
         Camp.bytes(x, 0, 200, 1, 1);
@@ -101,6 +106,20 @@ public final class PostsTest {
         DUE.is("4 BY a post that is none yet", x.mend(3, 7, 6), 0);
     }
 
+    private static void numbersKeepApart() {
+        WordChanged x = Camp.four();
+        for (int i = 4; i < 7; i++) x.post(i, i);
+        int[] amount = {7, 7, 7, 10, 10, 4, 4, 4, 1, 1, 1, 1};
+        for (int what = 0; what < 12; what++) {
+            for (int i = 0; i < amount[what]; i++) x.mend(i, what, 1 + (what * 3 + i) % 6);
+        }
+        for (int what = 0; what < 12; what++) {
+            for (int i = 0; i < amount[what]; i++) {
+                DUE.is("4 of(" + i + ", " + what + ")", x.of(i, what), 1 + (what * 3 + i) % 6);
+            }
+        }
+    }
+
     private static void promise5Of() {
         WordChanged x = Camp.four();
         DUE.is("5 no such what", x.of(0, 14), -1);
@@ -125,6 +144,7 @@ public final class PostsTest {
         promise2Post();
         promise3Posts();
         promise4Mend();
+        numbersKeepApart();
         promise5Of();
         DUE.end();
     }

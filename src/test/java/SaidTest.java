@@ -60,6 +60,8 @@ public final class SaidTest {
         judged(0, 1, 0, -1);
         judged(0, 1, 0, 2);
         judged(-2, 0, 99, 0, 0, 100, 1);
+        judged(-2, 1, 0, 0);
+        judged(0, 0, 99, 1);
         WordChanged x = said(2, 999, 0);
         Camp.bytes(x, 0, 1);
         DUE.is("22 OLD at one not in it", x.judge(1), -2);
@@ -67,6 +69,24 @@ public final class SaidTest {
         DUE.is("22 NEW at one not in it", x.judge(1), 0);
         x.mend(0, 8, 1);
         DUE.is("22 alike", x.judge(1), -2);
+    }
+
+    private static void anyShelves() {
+        WordChanged x = said(1, 110, 1);
+        Camp.bytes(x, 5, 1, 2, 3);
+        Camp.shorts(x, 0, 1, 109, 7);
+        Camp.shorts(x, 3, 1, 112, 0);
+        DUE.is("22 judge(51)", x.judge(51), -2);
+        DUE.is("22 judge(50)", x.judge(50), 0);
+        DUE.is("22 judge(53)", x.judge(53), -2);
+        DUE.is("24 when(53)", x.when(53), 43);
+        DUE.is("25 oddWord(50)", x.oddWord(50), -2);
+        x.put(0, 1, 111);
+        DUE.is("25 oddWord(50) a minute later", x.oddWord(50), 7);
+        DUE.is("25 oddWord(51)", x.oddWord(51), 1);
+        DUE.is("22 judge(0)", x.judge(0), -12);
+        x.keep(0, -1);
+        DUE.is("22 nothing in both", x.judge(0), -11);
     }
 
     private static void promise23Which() {
@@ -81,6 +101,14 @@ public final class SaidTest {
         DUE.is("23 none, the first", x.which(1, 1), -2);
         Camp.shorts(x, 1, 0, 99, 1);
         DUE.is("23 POST 0", x.which(1, 0), 0);
+        // 3 hears in 105 if it is first, in 121 behind 1: OLD in 180 wants 121 or later, in 181 later.
+        Camp.shorts(x, 1, 3, 180, 0, 1, 110, 1);
+        DUE.is("23 just late enough", x.which(1, 1), 123);
+        DUE.is("23 just late enough, both", x.which(1, 0), 2);
+        Camp.shorts(x, 1, 3, 186, 0, 1, 110, 1, 3, 126, 1);
+        DUE.is("23 a minute of one way", x.which(1, 0), 0);
+        Camp.shorts(x, 1, 3, 185, 0, 1, 110, 1, 3, 126, 1);
+        DUE.is("23 just that minute", x.which(1, 1), 132);
         Camp.shorts(x, 1, 1, 110, 1, 2);
         DUE.is("23 lacks", x.which(1, 0), 0);
         DUE.is("23 lacks, the first", x.which(1, 1), -2);
@@ -148,6 +176,10 @@ public final class SaidTest {
         DUE.is("25 OLD too late, then one", x.oddWord(1), -2);
         Camp.shorts(x, 1, 1, 200);
         DUE.is("25 lacks", x.oddWord(1), -2);
+        Camp.shorts(x, 1, 0, 99, 4);
+        DUE.is("25 POST 0 too early", x.oddWord(1), -2);
+        Camp.shorts(x, 1, 0, 100, 4, 0, 159, 0);
+        DUE.is("25 POST 0", x.oddWord(1), 4);
         DUE.is("25 NEW stays", x.of(0, 9), 1);
     }
 
@@ -193,6 +225,7 @@ public final class SaidTest {
     public static void main(String[] args) {
         wrongShelves();
         promise22Judge();
+        anyShelves();
         promise23Which();
         promise24When();
         promise25OddWord();
