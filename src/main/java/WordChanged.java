@@ -10,7 +10,7 @@ public final class WordChanged {
     private static final int OLD = 8, NEW = 9, AT = 10, HOLDS = 11, HAS = 12, NOW = 13;
     private static final int MOST_POSTS = 7, MOST_TOLD = 6, WORDS = 10, PATROLS = 4;
     private static final int MINUTES = 1000, TWELVE = 12, MOST_NIGHTS = 30;
-    /** So far behind every minute that a POST that never hears NEW needs no rule of its own. */
+    /** Behind every minute but those of safe(): so a POST that never hears NEW needs a rule of its own only there. */
     private static final int NEVER = 1000000;
     private static final int BYTES = 0, SHORTS = 1;
 
@@ -186,7 +186,8 @@ public final class WordChanged {
     }
 
     public int safe(int shelf, int pm, int m) {
-        if (!isPlaceAndMinute(pm) || m < 0 || m >= MINUTES) {
+        // Where the document holds a minute within 999 it says so: of m it does not.
+        if (!isPlaceAndMinute(pm) || m < 0) {
             return BAD;
         }
         int refusal = layOut(shelf);
@@ -588,7 +589,9 @@ public final class WordChanged {
     private int safeFromOld(int minute) {
         int greatest = MINUTES - 1;
         for (int p = 0; p < numbers.postCount; p++) {
-            greatest = Math.min(greatest, minute - way.hearing(numbers, p));
+            int heard = way.hearing(numbers, p);
+            // The minute may be later than NEVER.
+            greatest = Math.min(greatest, heard == NEVER ? NOT : minute - heard);
         }
         return greatest < 0 ? NOT : greatest;
     }
@@ -1298,8 +1301,9 @@ public final class WordChanged {
             return true;
         }
 
+        /** Of a minute the document tells no last one here: POSTS may hear NEW behind minute 999, too. */
         static boolean mayBe(Numbers numbers, int post, int minute, int word) {
-            return numbers.isPost(post) && minute >= 0 && minute < MINUTES && numbers.mayBe(NEW, word);
+            return numbers.isPost(post) && minute >= 0 && numbers.mayBe(NEW, word);
         }
 
         private boolean narrow(Numbers numbers, int post, int minute, int word, int fresh) {

@@ -422,7 +422,7 @@ public final class Model {
     }
 
     public int safe(int shelf, int pm, int m) {
-        if (badPm(pm) || m < 0 || m > 999) return BAD;
+        if (badPm(pm) || m < 0) return BAD;
         if (refusal(shelf) != 0) return refusal(shelf);
         List<Integer> route = read(shelf);
         return triedHolds(true, h -> {
@@ -558,7 +558,7 @@ public final class Model {
         short[] said = (short[]) shelves[shelf];
         for (int i = 0; i < said.length; i += 3) {
             if (i + 2 >= said.length) return i / 3;
-            if (said[i] < 0 || said[i] >= posts.size() || said[i + 1] < 0 || said[i + 1] > 999) return i / 3;
+            if (said[i] < 0 || said[i] >= posts.size() || said[i + 1] < 0) return i / 3;
             if (said[i + 2] < 0 || said[i + 2] > 9) return i / 3;
             if (!goes(route, said[i + 2], said[i], said[i + 1])) return i / 3;
         }

@@ -54,7 +54,8 @@ public final class SaidTest {
         judged(0, 4, 0, 0);
         judged(0, -1, 0, 0);
         judged(0, 1, -1, 0);
-        judged(0, 1, 1000, 1);
+        judged(0, 1, -1, 1);
+        judged(0, 1, Short.MIN_VALUE, 0);
         judged(-2, 1, 999, 1);
         judged(0, 1, 0, 10);
         judged(0, 1, 0, -1);
@@ -183,6 +184,66 @@ public final class SaidTest {
         DUE.is("25 NEW stays", x.of(0, 9), 1);
     }
 
+    /** The ROUTE 1, 2, 3 on shelf 0, AT 999: heard in 1009, 1030, 1056. */
+    private static WordChanged saidLate(long... threes) {
+        WordChanged x = said(threes);
+        x.mend(0, 10, 999);
+        return x;
+    }
+
+    private static void judgedBehind999() {
+        judged(-2, 1, 1000, 1);
+        judged(0, 1, 1000, 0);
+        judged(-2, 1, Short.MAX_VALUE, 1);
+        judged(0, 1, 1000, 2);
+        judged(1, 0, 1000, 1, 4, 1000, 1);
+        judged(1, 0, 1000, 1, 0, 1000);
+        DUE.is("22 NEW late", saidLate(3, 1056, 1).judge(1), -2);
+        DUE.is("22 NEW late, not yet", saidLate(3, 1055, 1).judge(1), 0);
+        DUE.is("22 OLD late", saidLate(3, 1115, 0).judge(1), -2);
+        DUE.is("22 OLD late, no more", saidLate(3, 1116, 0).judge(1), 0);
+        WordChanged x = saidLate(3, Short.MAX_VALUE, 0);
+        Camp.bytes(x, 0, 1, 2);
+        DUE.is("22 OLD late at one not in it", x.judge(1), -2);
+        x.put(1, 2, 1);
+        DUE.is("22 NEW late at one not in it", x.judge(1), 0);
+    }
+
+    private static void readBackBehind999() {
+        WordChanged x = saidLate(2, 1089, 0, 2, 1030, 1, 3, 1115, 0);
+        DUE.is("23 late", x.which(1, 0), 1);
+        DUE.is("23 late, the first", x.which(1, 1), 123);
+        // OLD in 1090 wants that 2 hears in 1031 or later: behind 1 alone it hears in 1030, behind both in 1051.
+        Camp.shorts(x, 1, 2, 1090, 0);
+        DUE.is("23 late, behind 3", x.which(1, 1), 132);
+        Camp.shorts(x, 1, 0, 1059, 0);
+        DUE.is("23 late, none", x.which(1, 0), 0);
+        DUE.is("23 late, none, the first", x.which(1, 1), -2);
+        Camp.shorts(x, 1, 1, Short.MAX_VALUE, 1);
+        DUE.is("23 very late", x.which(1, 0), 6);
+        DUE.is("24 very late", x.when(1), 0);
+        DUE.is("25 very late", x.oddWord(1), 1);
+        Camp.shorts(x, 1, 0, 1058, 0);
+        DUE.is("24 OLD late, the last AT", x.when(1), 999);
+        DUE.is("25 OLD late", x.oddWord(1), 0);
+        Camp.shorts(x, 1, 0, 1059, 0);
+        DUE.is("24 OLD behind all", x.when(1), -2);
+        Camp.shorts(x, 1, 3, 1100, 0, 3, 1041, 1);
+        DUE.is("24 just one AT", x.when(1), 984);
+        Camp.shorts(x, 1, 3, 1101, 0, 3, 1041, 1);
+        DUE.is("24 no AT", x.when(1), -2);
+        Camp.shorts(x, 1, 3, 1056, 6);
+        DUE.is("25 late", x.oddWord(1), 6);
+        Camp.shorts(x, 1, 3, 1055, 6);
+        DUE.is("25 late, too early", x.oddWord(1), -2);
+        Camp.shorts(x, 1, 3, 1056, 6, 3, 1115, 0);
+        DUE.is("25 late, OLD too", x.oddWord(1), 6);
+        Camp.shorts(x, 1, 3, -1, 0);
+        DUE.is("23 below 0", x.which(1, 0), 0);
+        DUE.is("24 below 0", x.when(1), -2);
+        DUE.is("25 below 0", x.oddWord(1), -2);
+    }
+
     private static void promise26Drawn() {
         WordChanged x = said();
         DUE.is("26 n 0", x.drawn(0, 1, 0, 0), -1);
@@ -229,6 +290,8 @@ public final class SaidTest {
         promise23Which();
         promise24When();
         promise25OddWord();
+        judgedBehind999();
+        readBackBehind999();
         promise26Drawn();
         DUE.end();
     }
