@@ -10,7 +10,7 @@ public final class WordChanged {
     private static final int OLD = 8, NEW = 9, AT = 10, HOLDS = 11, HAS = 12, NOW = 13;
     private static final int MOST_POSTS = 7, MOST_TOLD = 6, WORDS = 10, PATROLS = 4;
     private static final int MINUTES = 1000, TWELVE = 12, MOST_NIGHTS = 30;
-    /** Behind every minute but those of safe(): so a POST that never hears NEW needs a rule of its own only there. */
+    /** So far behind every minute that a POST that never hears NEW needs no rule of its own. */
     private static final int NEVER = 1000000;
     private static final int BYTES = 0, SHORTS = 1;
 
@@ -186,8 +186,8 @@ public final class WordChanged {
     }
 
     public int safe(int shelf, int pm, int m) {
-        // Where the document holds a minute within 999 it says so: of m it does not.
-        if (!isPlaceAndMinute(pm) || m < 0) {
+        // m is the minute of pm's words, 0 .. 999: no element of a ROW, as the minutes of what was SAID are.
+        if (!isPlaceAndMinute(pm) || m < 0 || m >= MINUTES) {
             return BAD;
         }
         int refusal = layOut(shelf);
@@ -589,9 +589,7 @@ public final class WordChanged {
     private int safeFromOld(int minute) {
         int greatest = MINUTES - 1;
         for (int p = 0; p < numbers.postCount; p++) {
-            int heard = way.hearing(numbers, p);
-            // The minute may be later than NEVER.
-            greatest = Math.min(greatest, heard == NEVER ? NOT : minute - heard);
+            greatest = Math.min(greatest, minute - way.hearing(numbers, p));
         }
         return greatest < 0 ? NOT : greatest;
     }

@@ -154,7 +154,7 @@ public final class AgainstModelTest {
         call("patrol", shelf, upTo(4) - 1);
         call("holdsFor", shelf);
         call("stranger", shelf, pm(), upTo(6));
-        call("safe", shelf, pm(), wild(lateMinute()));
+        call("safe", shelf, pm(), wild(minute()));
         call("first", shelf, upTo(1));
         call("right", shelf, post - 2, upTo(127), upTo(1));
         call("twice", shelf, wild(upTo(6)), upTo(2));

@@ -422,7 +422,7 @@ public final class Model {
     }
 
     public int safe(int shelf, int pm, int m) {
-        if (badPm(pm) || m < 0) return BAD;
+        if (badPm(pm) || m < 0 || m > 999) return BAD;
         if (refusal(shelf) != 0) return refusal(shelf);
         List<Integer> route = read(shelf);
         return triedHolds(true, h -> {

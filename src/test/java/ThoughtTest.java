@@ -35,7 +35,9 @@ public final class ThoughtTest {
             DUE.is("11 BAD first" + name, x.letsIn(s, 4000), -1);
             DUE.is("12 BAD first" + name, x.patrol(s, 4), -1);
             DUE.is("14 BAD first" + name, x.stranger(s, 1000, 4), -1);
-            DUE.is("15 BAD first" + name, x.safe(s, 1000, -1), -1);
+            DUE.is("15 BAD first, m below" + name, x.safe(s, 1000, -1), -1);
+            DUE.is("15 BAD first, m above" + name, x.safe(s, 1000, 1000), -1);
+            DUE.is("15 BAD first, pm" + name, x.safe(s, 4000, 1), -1);
             DUE.is("16 BAD first" + name, x.first(s, 2), -1);
         }
     }
@@ -207,17 +209,15 @@ public final class ThoughtTest {
         DUE.is("15 NEW ahead", x.safe(0, 1110, 99), 999);
         Camp.bytes(x, 1, 1, 2);
         DUE.is("15 one not in it", x.safe(1, 1050, 999), -2);
-        DUE.is("15 one not in it, late", x.safe(1, 1050, 1000), -2);
-        DUE.is("15 one not in it, very late", x.safe(1, 1050, 2000000), -2);
-        DUE.is("15 one not in it, the last", x.safe(1, 1050, Integer.MAX_VALUE), -2);
-        DUE.is("15 m above 999", x.safe(0, 1050, 1000), 843);
-        DUE.is("15 m above, just not all", x.safe(0, 1050, 1155), 998);
-        DUE.is("15 m above, just all", x.safe(0, 1050, 1156), 999);
-        DUE.is("15 the last m", x.safe(0, 1050, Integer.MAX_VALUE), 999);
-        DUE.is("15 NEW late", x.safe(0, 1110, 1000), -2);
-        DUE.is("15 NEW, the last m", x.safe(0, 1110, Integer.MAX_VALUE), -2);
-        DUE.is("15 the least m", x.safe(0, 1050, Integer.MIN_VALUE), -1);
-        DUE.is("15 m below", x.safe(0, 1050, -1), -1);
+        DUE.is("15 m 999", x.safe(0, 1050, 999), 842);
+        DUE.is("15 NEW, m 999", x.safe(0, 1110, 999), -2);
+        for (int m : new int[] {1000, 1156, 2000000, Integer.MAX_VALUE, -1, Integer.MIN_VALUE}) {
+            DUE.is("15 OLD, m " + m, x.safe(0, 1050, m), -1);
+            DUE.is("15 NEW, m " + m, x.safe(0, 1110, m), -1);
+            DUE.is("15 one not in it, m " + m, x.safe(1, 1050, m), -1);
+        }
+        DUE.is("15 m 0", x.safe(0, 1050, 0), -2);
+        DUE.is("15 NEW, m 0", x.safe(0, 1110, 0), 999);
         DUE.is("15 pm", x.safe(0, 4000, 1), -1);
         DUE.is("15 HOLDS stays", x.of(0, 11), 60);
         x.mend(0, 9, 0);
