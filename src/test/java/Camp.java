@@ -13,6 +13,54 @@ final class Camp {
         return x;
     }
 
+    /**
+     * Something of everything, so that whatever a call changes is seen. SHELVES: 0 the ROUTE 1, 2, 3 (heard in 110, 131,
+     * 157), 1 what was SAID, 2 ints, 3 a BODY, 4 nothing, 5 bytes from which POSTS may come.
+     */
+    static WordChanged rich() {
+        WordChanged x = four();
+        x.mend(0, 10, 100);
+        x.mend(1, 2, 6);
+        x.mend(3, 2, 9);
+        x.mend(0, 5, 120);
+        x.mend(0, 6, 160);
+        x.mend(0, 7, 3);
+        x.mend(2, 3, 7);
+        x.mend(2, 4, 8);
+        x.undo();
+        x.undo();
+        law(x, "c+n-2");
+        x.feed('7');
+        bytes(x, 0, 1, 2, 3);
+        shorts(x, 1, 1, 120, 1, 2, 140, 0);
+        row(x, 2, 2, 5, 6, 7);
+        bytes(x, 5, 7, 8, 9, 10, 11, 12);
+        x.body(5);
+        x.body(7);
+        x.keep(3, 1);
+        x.act(0, 3, 5);
+        x.change(4);
+        x.stay(10);
+        x.tell(1);
+        x.ask(1, 4);
+        x.image();
+        x.stay(25);
+        x.tell(2);
+        x.change(6);
+        x.ask(2, 9);
+        x.stay(15);
+        return x;
+    }
+
+    /** As rich(), with all POSTS that there may be. */
+    static WordChanged full() {
+        WordChanged x = rich();
+        x.post(40, 40);
+        x.post(50, 50);
+        x.post(60, 60);
+        return x;
+    }
+
     static WordChanged bytes(WordChanged x, int shelf, long... elements) {
         return row(x, shelf, 0, elements);
     }
