@@ -14,8 +14,8 @@ final class Camp {
     }
 
     /**
-     * Something of everything, so that whatever a call changes is seen. SHELVES: 0 the ROUTE 1, 2, 3 (heard in 110, 131,
-     * 157), 1 what was SAID, 2 ints, 3 a BODY, 4 nothing, 5 bytes from which POSTS may come.
+     * Something of everything, so that whatever a call changes is seen. SHELVES: 0 the ROUTE 1, 2, 3 (heard in 110,
+     * 131, 157), 1 what was SAID, 2 ints, 3 a BODY, 4 nothing, 5 bytes from which POSTS may come.
      */
     static WordChanged rich() {
         WordChanged x = four();

@@ -71,8 +71,7 @@ public final class DeedEdgesTest {
 
     private static WordChanged waited(int minute) {
         WordChanged x = Camp.rich();
-        int now = x.of(0, 13);
-        while (now < minute) now = x.stay(Math.min(999, minute - now));
+        for (int left = minute - x.of(0, 13); left > 0; left -= 999) x.stay(Math.min(999, left));
         return x;
     }
 
@@ -180,6 +179,53 @@ public final class DeedEdgesTest {
         EDGES.is("back() once more", x.back(), 10);
     }
 
+    private static int wordsLetIn(WordChanged x, int post) {
+        int bits = 0;
+        for (int word = 0; word < 10; word++) bits |= x.ask(post, word) << word;
+        return bits;
+    }
+
+    private static void allPostsHaveOld() {
+        EDGES.sentence(27, "IN DEED: it is NOW minute 0, all POSTS have OLD");
+        WordChanged x = new WordChanged();
+        x.mend(0, 8, 7);
+        x.post(1, 1);
+        Camp.bytes(x, 0, 2, 2, 2);
+        x.posts(0, 0, 1);
+        for (int post = 0; post < 2; post++) {
+            EDGES.is("what POST " + post + " has", x.of(post, 12), 7);
+            EDGES.is("what POST " + post + " lets in", wordsLetIn(x, post), 1 << 7);
+        }
+        EDGES.is("change(3)", x.change(3), 7);
+    }
+
+    private static void imageOfSevenPosts() {
+        EDGES.sentence(32, "AN IMAGE keeps what POSTS have and had, since when: POSTS 0 .. 6");
+        WordChanged x = new WordChanged();
+        x.mend(0, 8, 3);
+        for (int i = 0; i < 7; i++) x.post(i, i);
+        for (int post = 1; post < 7; post++) {
+            x.change(post + 3);
+            x.stay(post);
+            x.tell(post);
+        }
+        x.image();
+        x.stay(200);
+        x.change(0);
+        for (int post = 1; post < 7; post++) x.tell(post);
+        EDGES.is("back()", x.back(), 21);
+        for (int post = 1; post < 7; post++) {
+            EDGES.is("what POST " + post + " has", x.of(post, 12), post + 3);
+            EDGES.is("what POST " + post + " lets in", wordsLetIn(x, post), 1 << post + 3 | 1 << 3);
+        }
+        // POST 6 was told in 21, POST 5 in 15: 60 minutes from then on what they had still counts.
+        x.stay(54);
+        EDGES.is("what POST 5 lets in, behind HOLDS", wordsLetIn(x, 5), 1 << 8);
+        EDGES.is("what POST 6 lets in, ahead of it", wordsLetIn(x, 6), 1 << 9 | 1 << 3);
+        x.stay(6);
+        EDGES.is("what POST 6 lets in, behind HOLDS", wordsLetIn(x, 6), 1 << 9);
+    }
+
     private static void postsThatCameSince() {
         EDGES.sentence(33, "POSTS that came since have OLD, had nothing");
         WordChanged x = Camp.four();
@@ -196,9 +242,7 @@ public final class DeedEdgesTest {
         EDGES.is("back()", x.back(), 0);
         for (int post = 4; post < 7; post++) {
             EDGES.is("what POST " + post + " has", x.of(post, 12), 3);
-            int letIn = 0;
-            for (int word = 0; word < 10; word++) letIn += x.ask(post, word);
-            EDGES.is("for how many WORDS POST " + post + " lets in", letIn, 1);
+            EDGES.is("what POST " + post + " lets in", wordsLetIn(x, post), 1 << 3);
         }
         for (int post = 0; post < 4; post++) EDGES.is("what POST " + post + " has", x.of(post, 12), 0);
         EDGES.is("how many POSTS there are", x.count(0), 7);
@@ -319,6 +363,8 @@ public final class DeedEdgesTest {
         whatItHadWithinHolds();
         whatIsLed();
         imageAndBack();
+        allPostsHaveOld();
+        imageOfSevenPosts();
         postsThatCameSince();
         undone();
         theSameNumberIsNone();

@@ -7,6 +7,11 @@ final class Edges {
     static final int NOTHING_THERE = -11, OTHER_KIND = -12, NO_SUCH_PLACE = -13, SIZE_BELOW_0 = -14;
     static final long NO_LONG = Long.MIN_VALUE;
 
+    /** A call that asks of a SHELF. */
+    interface Asked {
+        long of(WordChanged x, int shelf);
+    }
+
     private final Due due;
     private String sentence = "";
 
@@ -36,6 +41,28 @@ final class Edges {
         is(call, camp, made, want);
         boolean same = Look.at(camp, made).equals(Look.at(camp, x -> 0));
         due.isTrue(sentence + call + " changes nothing, which", same);
+    }
+
+    /** A call that wants a ROUTE, asked of each SHELF on which there is none. */
+    void wantsRoute(int promise, String call, Asked asked, long bad, long nothingThere, long otherKind) {
+        sentence(promise, "a ROUTE on a SHELF 0 .. 5; BAD");
+        for (int shelf : new int[] {-1, 6, Integer.MIN_VALUE, Integer.MAX_VALUE}) {
+            refused(call + " of SHELF " + shelf, Camp::rich, x -> asked.of(x, shelf), bad);
+        }
+        sentence(promise, "-11 nothing is there where something is wanted");
+        refused(call + " of nothing", Camp::rich, x -> asked.of(x, 4), nothingThere);
+        sentence(promise, "-12 (no ROW of bytes)");
+        refused(call + " of a BODY", Camp::rich, x -> asked.of(x, 3), otherKind);
+        for (int sort = 1; sort < 5; sort++) {
+            int s = sort;
+            Supplier<WordChanged> camp = () -> Camp.row(Camp.rich(), 5, s, 1, 2, 3);
+            refused(call + " of a ROW of sort " + sort, camp, x -> asked.of(x, 5), otherKind);
+        }
+        sentence(promise, "a ROUTE: a ROW of bytes on a SHELF 0 .. 5");
+        for (int shelf = 0; shelf < 6; shelf++) {
+            long answer = asked.of(Camp.bytes(Camp.rich(), shelf, 1, 2, 3), shelf);
+            is(call + " of SHELF " + shelf, answer, asked.of(Camp.rich(), 0));
+        }
     }
 
     void end() {

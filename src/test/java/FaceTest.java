@@ -27,7 +27,9 @@ public final class FaceTest {
 
     private static String told(Method m) {
         StringBuilder text = new StringBuilder(m.getReturnType() + " " + m.getName() + "(");
-        for (Class<?> c : m.getParameterTypes()) text.append(text.charAt(text.length() - 1) == '(' ? "" : ",").append(c);
+        for (Class<?> c : m.getParameterTypes()) {
+            text.append(text.charAt(text.length() - 1) == '(' ? "" : ",").append(c);
+        }
         return text.append(")").toString();
     }
 
@@ -59,8 +61,8 @@ public final class FaceTest {
 
     private static void noPublicNames(Class<?> kind, Set<String> publicNames) {
         for (Method m : kind.getDeclaredMethods()) {
-            boolean ofTheFace = kind == WordChanged.class && !Modifier.isPrivate(m.getModifiers());
-            DUE.isTrue("no public one's name: " + m, ofTheFace || !publicNames.contains(m.getName()));
+            boolean hidden = Modifier.isPrivate(m.getModifiers());
+            DUE.isTrue("no public one's name: " + m, !hidden || !publicNames.contains(m.getName()));
             DUE.isTrue("at most seven parameters: " + m, m.getParameterCount() <= 7);
         }
         for (Field f : kind.getDeclaredFields()) {
@@ -72,13 +74,19 @@ public final class FaceTest {
     private static void words() throws IOException {
         String source = Files.readString(Path.of("src/main/java/WordChanged.java"));
         String code = source.replaceAll("(?s)/\\*.*?\\*/", " ").replaceAll("//[^\n]*", " ");
-        for (String word : List.of("throw", "throws", "try", "catch", "synchronized", "assert", "import", "package",
-                "Exact", "hashCode", "toString", "System.out", "System.nano", "System.current", "Random", "->", "::")) {
+        for (String word : List.of("throw", "throws", "try", "catch", "synchronized", "assert", "package",
+                "hashCode", "System.out", "System.nano", "System.current", "Random", "::")) {
             boolean isWord = Character.isLetter(word.charAt(0));
-            String pattern = isWord ? "(?s).*\\b" + word + "\\b.*" : "(?s).*" + java.util.regex.Pattern.quote(word) + ".*";
-            DUE.isTrue("not in the source: " + word, !code.matches(pattern));
+            String pattern = isWord ? "\\b" + word + "\\b" : java.util.regex.Pattern.quote(word);
+            DUE.isTrue("not in the source: " + word, !java.util.regex.Pattern.compile(pattern).matcher(code).find());
         }
-        DUE.isTrue("no while without a counter", !code.contains("while"));
+        for (String line : code.split("\n")) {
+            String text = line.trim();
+            DUE.isTrue("an arrow stands in a switch alone: " + text,
+                !text.contains("->") || text.startsWith("case ") || text.startsWith("default "));
+            DUE.isTrue("only these are imported: " + text,
+                !text.startsWith("import ") || text.matches("import java\\.util\\.(ArrayList|Arrays|Iterator|List);"));
+        }
     }
 
     public static void main(String[] args) throws Exception {

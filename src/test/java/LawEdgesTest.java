@@ -50,6 +50,9 @@ public final class LawEdgesTest {
     private static void aTextHasAtMost120Bytes() {
         EDGES.sentence(7, "a TEXT by THE TAPE (at most 120 bytes)");
         takes("1+".repeat(59) + "10", "1;".repeat(59) + "10", "1?2;".repeat(29) + "3333");
+        EDGES.sentence(8, "a TEXT by THE TAPE (at most 120 bytes)");
+        gives("!0" + "+0".repeat(59), 1);
+        gives("0?9;".repeat(29) + "!!-7", 1);
         EDGES.sentence(7, "-100 less its FAULT");
         fault("1+".repeat(59) + "1 ", 119);
         fault("1+".repeat(60), 120);
@@ -74,6 +77,10 @@ public final class LawEdgesTest {
         EDGES.is("mishears(10) behind a FAULT", x.mishears(10), 5);
         Camp.law(x, "7");
         EDGES.is("mishears(10) by the next law", x.mishears(10), 7);
+        for (int time = 0; time < 2; time++) {
+            Camp.law(x, "!0" + "+0".repeat(59));
+            EDGES.is("mishears(10) by one of 120 bytes", x.mishears(10), 1);
+        }
     }
 
     private static void linesAreOneOrMore() {
@@ -194,6 +201,7 @@ public final class LawEdgesTest {
         EDGES.is("mishears(10)", Camp::rich, x -> x.mishears(10), 4);
         EDGES.is("mishears(16)", Camp::rich, x -> x.mishears(16), 10);
         EDGES.is("mishears(30)", Camp::rich, x -> x.mishears(30), 7);
+        EDGES.is("mishears(36)", Camp::rich, x -> x.mishears(36), 12);
         EDGES.is("mishears(66) with seven POSTS", Camp::full, x -> x.mishears(66), 4);
     }
 
@@ -304,6 +312,13 @@ public final class LawEdgesTest {
         gives("-1?5;7", 5);
         gives("2?5;7", 5);
         gives("0?5;-1?6;7", 6);
+        EDGES.sentence(8, "LINE: E ? E, each of them E = A { | A }");
+        gives("0|1?0|5;7", 1);
+        gives("0|0?5;7", 7);
+        gives("1&0?5;7", 7);
+        gives("1?0&5;7", 0);
+        gives("2<1?5;7", 7);
+        gives("1?2>1;7", 1);
     }
 
     private static void numbersThatNamesTell() {
@@ -327,6 +342,8 @@ public final class LawEdgesTest {
         Camp.law(x, "p");
         EDGES.is("p 1", x.mishears(16), 1);
         EDGES.is("p 6", x.mishears(60), 6);
+        EDGES.is("p 6, n 6", x.mishears(66), 6);
+        EDGES.is("p 5, n 6", x.mishears(56), 5);
         Camp.law(x, "w");
         x.mend(0, 9, 0);
         EDGES.is("w 0", x.mishears(66), 0);

@@ -5,8 +5,9 @@ import java.util.function.Supplier;
 import java.util.function.ToLongFunction;
 
 /**
- * All that later calls could tell of an object. Some of them can be asked once only (law() empties THE TAPE, back() lays
- * the image back): so each part is asked of an object of its own, which came to be by the same calls.
+ * All that later calls could tell of an object. Some of them can be asked once only (law() empties THE TAPE, back()
+ * lays the image back): so each part is asked of an object of its own, which came to be by the same calls. None of
+ * them is asked more than the 512 calls that the document promises.
  */
 final class Look {
     private final List<Long> seen = new ArrayList<>();

@@ -6,11 +6,6 @@ public final class OddsEdgesTest {
     private static final long NO_LONG = Edges.NO_LONG;
     private static final int[] WRONG_PARTS = {-1, 2, 3, Integer.MIN_VALUE, Integer.MAX_VALUE};
 
-    /** A call that asks a SHELF for a ROUTE. */
-    private interface Asked {
-        long of(WordChanged x, int shelf);
-    }
-
     /** Answers a fraction's part, 0 above and 1 below the line. */
     private interface Fraction {
         long of(WordChanged x, int part);
@@ -21,35 +16,17 @@ public final class OddsEdgesTest {
         EDGES.is(call + ", below", camp, x -> fraction.of(x, 1), below);
     }
 
-    private static void none(String call, Asked asked) {
+    private static void none(String call, Edges.Asked asked) {
         EDGES.refused(call, Camp::rich, x -> asked.of(x, 0), NO_LONG);
     }
 
-    private static void shelfRefused(int promise, String call, Asked asked) {
-        EDGES.sentence(promise, "for a long Long.MIN_VALUE instead of BAD");
-        for (int shelf : new int[] {-1, 6, Integer.MIN_VALUE, Integer.MAX_VALUE}) {
-            EDGES.refused(call + " of SHELF " + shelf, Camp::rich, x -> asked.of(x, shelf), NO_LONG);
-        }
-        EDGES.sentence(promise, "for a long Long.MIN_VALUE instead of -11");
-        EDGES.refused(call + " of nothing", Camp::rich, x -> asked.of(x, 4), NO_LONG);
-        EDGES.sentence(promise, "for a long Long.MIN_VALUE instead of -12 (no ROW of bytes)");
-        EDGES.refused(call + " of a BODY", Camp::rich, x -> asked.of(x, 3), NO_LONG);
-        for (int sort = 1; sort < 5; sort++) {
-            int s = sort;
-            Supplier<WordChanged> camp = () -> Camp.row(Camp.rich(), 5, s, 1, 2, 3);
-            EDGES.refused(call + " of a ROW of sort " + sort, camp, x -> asked.of(x, 5), NO_LONG);
-        }
-        for (int shelf : new int[] {0, 5}) {
-            WordChanged x = Camp.bytes(Camp.rich(), shelf, 1, 2, 3);
-            EDGES.is(call + " of SHELF " + shelf + " answers", asked.of(x, shelf) > NO_LONG ? 1 : 0, 1);
-        }
-    }
-
     private static void shelvesRefused() {
-        shelfRefused(17, "right(.., 1, 0, 0)", (x, s) -> x.right(s, 1, 0, 0));
-        shelfRefused(18, "twice(.., 1, 0)", (x, s) -> x.twice(s, 1, 0));
-        shelfRefused(20, "odds(.., 0, 0)", (x, s) -> x.odds(s, 0, 0));
-        shelfRefused(21, "guess(.., 1120, 1, 0)", (x, s) -> x.guess(s, 1120, 1, 0));
+        // Long.MIN_VALUE stands for BAD, -11 and -12.
+        EDGES.wantsRoute(17, "right(.., 1, 0, 0)", (x, s) -> x.right(s, 1, 0, 0), NO_LONG, NO_LONG, NO_LONG);
+        EDGES.wantsRoute(18, "twice(.., 1, 0)", (x, s) -> x.twice(s, 1, 0), NO_LONG, NO_LONG, NO_LONG);
+        EDGES.wantsRoute(19, "word(..)", (x, s) -> x.word(s), Edges.BAD, Edges.NOTHING_THERE, Edges.OTHER_KIND);
+        EDGES.wantsRoute(20, "odds(.., 0, 0)", (x, s) -> x.odds(s, 0, 0), NO_LONG, NO_LONG, NO_LONG);
+        EDGES.wantsRoute(21, "guess(.., 1120, 1, 0)", (x, s) -> x.guess(s, 1120, 1, 0), NO_LONG, NO_LONG, NO_LONG);
     }
 
     private static void partIsAboveOrBelow() {
@@ -98,6 +75,15 @@ public final class OddsEdgesTest {
         is("POST 1 of 2", () -> by("0", 2), (x, part) -> x.right(0, 1, 0, part), 0, 1);
         is("POST 1 of 2, told twice", () -> by("0", 2), (x, part) -> x.right(0, 1, 2, part), 0, 1);
         is("POST 3 of none", () -> by("0"), (x, part) -> x.right(0, 3, 0, part), 0, 1);
+        WordChanged other = by("0", 1, 2, 3);
+        EDGES.is("POST 1 of 1, 2, 3", other.right(0, 1, 2, 0), 1);
+        Camp.bytes(other, 0, 2);
+        EDGES.is("POST 1 of another ROUTE then", other.right(0, 1, 0, 0), 0);
+        EDGES.is("POST 1 of another ROUTE then, told twice", other.right(0, 1, 2, 0), 0);
+        other = Camp.bytes(Camp.full(), 0, 6);
+        EDGES.is("POST 6 of 6", other.right(0, 6, 64, 0), 1);
+        Camp.bytes(other, 0, 1);
+        EDGES.is("POST 6 of another ROUTE then", other.right(0, 6, 64, 0), 0);
         EDGES.sentence(17, "ALL that are in it");
         is("ALL of none", () -> by("6"), (x, part) -> x.right(0, -1, 0, part), 1, 1);
         is("ALL of one", () -> by("6", 2), (x, part) -> x.right(0, -1, 0, part), 1, 2);
@@ -177,21 +163,6 @@ public final class OddsEdgesTest {
         EDGES.is("one, though none can have it right", () -> by("12", 3, 2), x -> x.twice(0, 1, 2), 4);
     }
 
-    private static void bestWordOfWhichRoute() {
-        EDGES.sentence(19, "BAD, -11, -12 (no ROW of bytes)");
-        for (int shelf : new int[] {-1, 6, Integer.MIN_VALUE, Integer.MAX_VALUE}) {
-            EDGES.refused("word(" + shelf + ")", Camp::rich, x -> x.word(shelf), Edges.BAD);
-        }
-        EDGES.refused("word(4) of nothing", Camp::rich, x -> x.word(4), Edges.NOTHING_THERE);
-        EDGES.refused("word(3) of a BODY", Camp::rich, x -> x.word(3), Edges.OTHER_KIND);
-        for (int sort = 1; sort < 5; sort++) {
-            int s = sort;
-            Supplier<WordChanged> camp = () -> Camp.row(Camp.rich(), 5, s, 1, 2, 3);
-            EDGES.refused("word(5) of a ROW of sort " + sort, camp, x -> x.word(5), Edges.OTHER_KIND);
-        }
-        EDGES.is("word(5)", Camp::rich, x -> x.word(5), 1);
-    }
-
     private static void bestWordOfAllButOld() {
         EDGES.sentence(19, "which of all WORDS but OLD; of like ones the least");
         EDGES.is("OLD 0", () -> by("6", 1, 2), x -> x.word(0), 1);
@@ -205,6 +176,8 @@ public final class OddsEdgesTest {
         x.mend(0, 8, 9);
         EDGES.is("the last but OLD", x.word(0), 8);
         EDGES.is("by ALL, not by the first", () -> by("p=1&w=4?0;w=5?2;5", 1, 2, 3), y -> y.word(0), 5);
+        // Alike told once, as one of two either way; told twice 5 were likelier.
+        EDGES.is("told once", () -> by("w=4&p=2?6;w=4?0;w=5&p=1?3;w=5?4;12", 1, 2), y -> y.word(0), 4);
         EDGES.is("NEW stays", x.of(0, 9), 1);
     }
 
@@ -243,6 +216,11 @@ public final class OddsEdgesTest {
         odds("NEW in that minute", 100, 131, 3, 4);
         odds("NEW in 999", 999, 999, 3, 4);
         odds("NEW a minute ahead", 100, 130, 0, 1);
+        is("the first in the ROUTE", () -> {
+            WordChanged x = by("3", 2);
+            patrolAt(x, 100, 999, 2);
+            return x;
+        }, (x, part) -> x.odds(0, 0, part), 3, 4);
         EDGES.sentence(20, "OLD is let in then, till HOLDS are over");
         odds("OLD a minute ahead", 99, 130, 1, 1);
         odds("OLD in the last of HOLDS", 99, 190, 1, 1);
@@ -308,6 +286,12 @@ public final class OddsEdgesTest {
         is("all mishear", () -> by("12", 1), (x, part) -> x.guess(0, 1120, 1, part), 1, 5);
     }
 
+    private static WordChanged toldAt0() {
+        WordChanged x = misheard();
+        x.mend(0, 10, 0);
+        return x;
+    }
+
     private static void guessWhere() {
         EDGES.sentence(21, "pm: 1000 times the POST, and the minute 0 .. 999");
         for (int pm : new int[] {-1, -1000, 4000, 4999, 7000, Integer.MIN_VALUE, Integer.MAX_VALUE}) {
@@ -316,6 +300,8 @@ public final class OddsEdgesTest {
         EDGES.refused("guess(0, 0, 1, 0) with no POSTS", () -> Camp.bytes(new WordChanged(), 0),
             x -> x.guess(0, 0, 1, 0), NO_LONG);
         is("pm 0", OddsEdgesTest::misheard, (x, part) -> x.guess(0, 0, 3, part), 3, 10);
+        is("pm 0, AT 0", () -> toldAt0(), (x, part) -> x.guess(0, 0, 1, part), 1, 5);
+        is("pm 1000, AT 0", () -> toldAt0(), (x, part) -> x.guess(0, 1000, 1, part), 1, 10);
         is("pm 3999", OddsEdgesTest::misheard, (x, part) -> x.guess(0, 3999, 3, part), 3, 10);
         is("pm 6999 of seven", Camp::full, (x, part) -> x.guess(0, 6999, 3, part), 3, 10);
     }
@@ -339,7 +325,6 @@ public final class OddsEdgesTest {
         rightOfWhichPost();
         toldTwiceIsASetOfPosts();
         whomToTellTwice();
-        bestWordOfWhichRoute();
         bestWordOfAllButOld();
         oddsOfWhichPatrol();
         oddsIfItIsMisheard();

@@ -25,16 +25,23 @@ public final class SaidEdgesTest {
         return Camp.bytes(said(threes), 0, route);
     }
 
-    private static void rsRefused(int promise, String call, Asked asked) {
+    private static void rsRefused(int promise, String call, int due, Asked asked) {
         EDGES.sentence(promise, "rs: 10 times the SHELF of the ROUTE, and that of what was SAID; BAD");
         for (int rs : new int[] {-1, -10, 6, 7, 8, 9, 16, 59, 60, 61, 100, 1000000, Integer.MIN_VALUE,
                 Integer.MAX_VALUE}) {
             EDGES.refused(call + "(" + rs + ")", Camp::rich, x -> asked.of(x, rs), BAD);
         }
-        WordChanged x = Camp.shorts(Camp.bytes(Camp.rich(), 5, 1, 2, 3), 0);
-        EDGES.is(call + "(50) answers", asked.of(x, 50) > OTHER_KIND ? 1 : 0, 1);
-        x = Camp.shorts(Camp.rich(), 5);
-        EDGES.is(call + "(5) answers", asked.of(x, 5) > OTHER_KIND ? 1 : 0, 1);
+        for (int route = 0; route < 6; route++) {
+            for (int said = 0; said < 6; said++) {
+                if (route == said) continue;
+                // The SHELVES that rs does not tell hold nothing.
+                WordChanged x = Camp.four();
+                Camp.bytes(x, route, 1, 2, 3);
+                Camp.shorts(x, said, 1, 110, 0, 1, 120, 1);
+                x.mend(0, 10, 100);
+                EDGES.is(call + "(" + (10 * route + said) + ")", asked.of(x, 10 * route + said), due);
+            }
+        }
         EDGES.sentence(promise, "BAD is named ahead of -11, -12");
         EDGES.refused(call + "(46)", Camp::rich, y -> asked.of(y, 46), BAD);
         EDGES.refused(call + "(64)", Camp::rich, y -> asked.of(y, 64), BAD);
@@ -60,9 +67,9 @@ public final class SaidEdgesTest {
     }
 
     private static void shelvesRefused() {
-        rsRefused(22, "judge", WordChanged::judge);
-        rsRefused(24, "when", WordChanged::when);
-        rsRefused(25, "oddWord", WordChanged::oddWord);
+        rsRefused(22, "judge", NOT, WordChanged::judge);
+        rsRefused(24, "when", 41, WordChanged::when);
+        rsRefused(25, "oddWord", 1, WordChanged::oddWord);
     }
 
     private static void judged(int due, long... threes) {
@@ -216,13 +223,15 @@ public final class SaidEdgesTest {
         EDGES.is("OLD at POST 1 in 1068", said(1, 1068, 0), x -> x.when(1), 999);
         EDGES.is("both in 59", said(0, 59, 0, 0, 0, 1), x -> x.when(1), 0);
         EDGES.sentence(24, "by which all is so by a ROUTE; NOT");
-        refusedWhen("NEW at POST 1 in 9", 1, 9, 1);
-        refusedWhen("OLD at POST 0 in 1059", 0, 1059, 0);
-        refusedWhen("OLD at POST 1 in 1069", 1, 1069, 0);
-        refusedWhen("both, a minute too far", 0, 60, 0, 0, 0, 1);
-        refusedWhen("a WORD that is neither", 0, 999, 5);
+        notSo("NEW at POST 1 in 9", x -> x.when(1), 1, 9, 1);
+        notSo("OLD at POST 0 in 1059", x -> x.when(1), 0, 1059, 0);
+        notSo("OLD at POST 1 in 1069", x -> x.when(1), 1, 1069, 0);
+        notSo("both, a minute too far", x -> x.when(1), 0, 60, 0, 0, 0, 1);
+        notSo("a WORD that is neither", x -> x.when(1), 0, 999, 5);
         EDGES.is("OLD at one not in the ROUTE", saidBy(1, 2, 999, 0), x -> x.when(1), 0);
         EDGES.is("NEW at one not in the ROUTE", saidBy(1, 2, 999, 1), x -> x.when(1), NOT);
+        EDGES.is("and OLD at POST 0 in 60", saidBy(1, 2, 999, 0, 0, 60, 0), x -> x.when(1), 1);
+        EDGES.is("nothing SAID of it, OLD at POST 0 in 60", saidBy(1, 0, 60, 0), x -> x.when(1), 1);
         EDGES.is("AT stays", said(0, 60, 0), x -> x.when(1) + x.of(0, 10), 101);
         WordChanged x = said(0, 999, 0);
         x.mend(0, 11, 0);
@@ -233,13 +242,8 @@ public final class SaidEdgesTest {
         EDGES.is("alike", Camp.shorts(x, 1, 1, 0, 1), y -> y.when(1), 0);
     }
 
-    private static void refusedWhen(String name, long... threes) {
-        Supplier<WordChanged> camp = () -> {
-            WordChanged x = Camp.shorts(Camp.rich(), 1, threes);
-            x.mend(0, 11, 60);
-            return x;
-        };
-        EDGES.refused(name, camp, x -> x.when(1), NOT);
+    private static void notSo(String name, ToLongFunction<WordChanged> asked, long... threes) {
+        EDGES.refused(name, () -> Camp.shorts(Camp.rich(), 1, threes), asked, NOT);
     }
 
     private static void oddWordIsTheLeast() {
@@ -250,43 +254,29 @@ public final class SaidEdgesTest {
         EDGES.is("WORD 9", said(1, 110, 9), x -> x.oddWord(1), 9);
         EDGES.is("OLD, then WORD 1", said(1, 169, 0, 1, 110, 1), x -> x.oddWord(1), 1);
         EDGES.is("with no POSTS", Camp.shorts(Camp.bytes(new WordChanged(), 0), 1), x -> x.oddWord(1), 0);
+        EDGES.is("WORD 4 at POST 0", said(0, 100, 4), x -> x.oddWord(1), 4);
+        EDGES.is("WORD 4 at POST 0 a minute ahead", said(0, 99, 4), x -> x.oddWord(1), NOT);
+        EDGES.is("WORD 4 at POST 3", said(3, 157, 4), x -> x.oddWord(1), 4);
+        EDGES.is("WORD 4 at POST 3 a minute ahead", said(3, 156, 4), x -> x.oddWord(1), NOT);
         EDGES.sentence(25, "NOT");
-        refusedOdd("WORD 9 a minute ahead", 1, 109, 9);
-        refusedOdd("OLD a minute behind, then WORD 1", 1, 170, 0, 1, 110, 1);
-        refusedOdd("two WORDS", 1, 110, 8, 1, 110, 9);
+        notSo("WORD 9 a minute ahead", x -> x.oddWord(1), 1, 109, 9);
+        notSo("OLD a minute behind, then WORD 1", x -> x.oddWord(1), 1, 170, 0, 1, 110, 1);
+        notSo("two WORDS", x -> x.oddWord(1), 1, 110, 8, 1, 110, 9);
         EDGES.is("NEW stays", said(1, 110, 9), x -> x.oddWord(1) + x.of(0, 9), 10);
-    }
-
-    private static void refusedOdd(String name, long... threes) {
-        Supplier<WordChanged> camp = () -> {
-            WordChanged x = Camp.shorts(Camp.rich(), 1, threes);
-            x.mend(0, 11, 60);
-            return x;
-        };
-        EDGES.refused(name, camp, x -> x.oddWord(1), NOT);
     }
 
     private static void drawnRefused() {
         EDGES.sentence(26, "n nights (1 .. 30)");
-        for (int n : new int[] {0, -1, 31, Integer.MIN_VALUE, Integer.MAX_VALUE}) drawnBad(x -> x.drawn(0, 7, n, 0),
-            x -> x.drawn(4, 7, n, 0), x -> x.drawn(1, 7, n, 1));
+        for (int n : new int[] {0, -1, 31, 1000, Integer.MIN_VALUE}) {
+            drawnBad(x -> x.drawn(0, 7, n, 0), x -> x.drawn(4, 7, n, 0), x -> x.drawn(1, 7, n, 1));
+        }
         EDGES.is("1 night", by("0"), x -> x.drawn(0, 7, 1, 0), 3);
         EDGES.is("30 nights", by("0"), x -> x.drawn(0, 7, 30, 0), 90);
         EDGES.sentence(26, "right ones (what 0), PATROLS (1)");
-        for (int what : new int[] {-1, 2, Integer.MIN_VALUE, Integer.MAX_VALUE}) drawnBad(x -> x.drawn(0, 7, 1, what),
-            x -> x.drawn(4, 7, 1, what), x -> x.drawn(1, 7, 1, what));
-        EDGES.sentence(26, "a ROUTE on a SHELF; BAD, -11, -12");
-        for (int shelf : new int[] {-1, 6, Integer.MIN_VALUE, Integer.MAX_VALUE}) {
-            EDGES.refused("of SHELF " + shelf, Camp::rich, x -> x.drawn(shelf, 7, 1, 0), BAD);
+        for (int what : new int[] {-1, 2, Integer.MIN_VALUE, Integer.MAX_VALUE}) {
+            drawnBad(x -> x.drawn(0, 7, 1, what), x -> x.drawn(4, 7, 1, what), x -> x.drawn(1, 7, 1, what));
         }
-        EDGES.refused("of nothing", Camp::rich, x -> x.drawn(4, 7, 1, 0), NOTHING_THERE);
-        EDGES.refused("of a BODY", Camp::rich, x -> x.drawn(3, 7, 1, 0), OTHER_KIND);
-        for (int sort = 1; sort < 5; sort++) {
-            int s = sort;
-            Supplier<WordChanged> camp = () -> Camp.row(Camp.rich(), 5, s, 1, 2, 3);
-            EDGES.refused("of a ROW of sort " + sort, camp, x -> x.drawn(5, 7, 1, 0), OTHER_KIND);
-        }
-        EDGES.is("of SHELF 5", Camp.bytes(Camp.rich(), 5, 2), x -> x.drawn(5, 7, 30, 0), 30);
+        EDGES.wantsRoute(26, "drawn(.., 7, 1, 0)", (x, s) -> x.drawn(s, 7, 1, 0), BAD, NOTHING_THERE, OTHER_KIND);
     }
 
     private static void drawnBad(ToLongFunction<WordChanged> route, ToLongFunction<WordChanged> nothing,

@@ -4,46 +4,23 @@ import java.util.function.Supplier;
 public final class ThoughtEdgesTest {
     private static final Edges EDGES = new Edges("edges in thought");
     private static final int BAD = Edges.BAD, NOT = Edges.NOT, NOT_THEN = -3;
-    private static final int NOTHING_THERE = Edges.NOTHING_THERE, OTHER_KIND = Edges.OTHER_KIND;
-
-    /** A call that asks a SHELF for a ROUTE. */
-    private interface Asked {
-        long of(WordChanged x, int shelf);
-    }
-
-    private static void shelfRefused(int promise, String call, Asked asked) {
-        EDGES.sentence(promise, "a ROUTE on a SHELF; BAD");
-        for (int shelf : new int[] {-1, 6, Integer.MIN_VALUE, Integer.MAX_VALUE}) {
-            EDGES.refused(call + " of SHELF " + shelf, Camp::rich, x -> asked.of(x, shelf), BAD);
-        }
-        EDGES.sentence(promise, "-11 nothing is there where something is wanted");
-        EDGES.refused(call + " of SHELF 4", Camp::rich, x -> asked.of(x, 4), NOTHING_THERE);
-        EDGES.sentence(promise, "-12 (no ROW of bytes)");
-        EDGES.refused(call + " of a BODY", Camp::rich, x -> asked.of(x, 3), OTHER_KIND);
-        for (int sort = 1; sort < 5; sort++) {
-            int s = sort;
-            Supplier<WordChanged> camp = () -> Camp.row(Camp.rich(), 5, s, 1, 2, 3);
-            EDGES.refused(call + " of a ROW of sort " + sort, camp, x -> asked.of(x, 5), OTHER_KIND);
-        }
-        EDGES.sentence(promise, "a ROUTE: a ROW of bytes on a SHELF 0 .. 5");
-        for (int shelf : new int[] {0, 5}) {
-            WordChanged x = Camp.bytes(Camp.rich(), shelf, 1, 2, 3);
-            EDGES.is(call + " of SHELF " + shelf + " answers", asked.of(x, shelf) > OTHER_KIND ? 1 : 0, 1);
-        }
-    }
 
     private static void shelvesRefused() {
-        shelfRefused(9, "hears(.., 1)", (x, s) -> x.hears(s, 1));
-        shelfRefused(11, "letsIn(.., 1000)", (x, s) -> x.letsIn(s, 1000));
-        shelfRefused(12, "patrol(.., 0)", (x, s) -> x.patrol(s, 0));
-        shelfRefused(13, "holdsFor(..)", (x, s) -> x.holdsFor(s));
-        shelfRefused(14, "stranger(.., 1000, 1)", (x, s) -> x.stranger(s, 1000, 1));
-        shelfRefused(15, "safe(.., 1000, 1)", (x, s) -> x.safe(s, 1000, 1));
-        shelfRefused(16, "first(.., 0)", (x, s) -> x.first(s, 0));
+        wantsRoute(9, "hears(.., 1)", (x, s) -> x.hears(s, 1));
+        wantsRoute(11, "letsIn(.., 1000)", (x, s) -> x.letsIn(s, 1000));
+        wantsRoute(12, "patrol(.., 0)", (x, s) -> x.patrol(s, 0));
+        wantsRoute(13, "holdsFor(..)", (x, s) -> x.holdsFor(s));
+        wantsRoute(14, "stranger(.., 1000, 1)", (x, s) -> x.stranger(s, 1000, 1));
+        wantsRoute(15, "safe(.., 1000, 1)", (x, s) -> x.safe(s, 1000, 1));
+        wantsRoute(16, "first(.., 0)", (x, s) -> x.first(s, 0));
+    }
+
+    private static void wantsRoute(int promise, String call, Edges.Asked asked) {
+        EDGES.wantsRoute(promise, call, asked, BAD, Edges.NOTHING_THERE, Edges.OTHER_KIND);
     }
 
     /** BAD is named ahead of -11 and -12: so also of a SHELF with nothing, and of one with another kind. */
-    private static void bad(int promise, String words, String call, Asked asked) {
+    private static void bad(int promise, String words, String call, Edges.Asked asked) {
         EDGES.sentence(promise, words + "; BAD");
         EDGES.refused(call, Camp::rich, x -> asked.of(x, 0), BAD);
         EDGES.sentence(promise, words + "; BAD is named ahead of -11, -12");
@@ -52,7 +29,7 @@ public final class ThoughtEdgesTest {
     }
 
     /** pm that is none: the POSTS are 0 .. 3, of two of them no POST. */
-    private static void pmRefused(int promise, String call, java.util.function.IntFunction<Asked> asked) {
+    private static void pmRefused(int promise, String call, java.util.function.IntFunction<Edges.Asked> asked) {
         for (int pm : new int[] {-1, -1000, 4000, 4999, 7000, Integer.MIN_VALUE, Integer.MAX_VALUE}) {
             bad(promise, "pm: 1000 times the POST, and the minute 0 .. 999", call + " with pm " + pm, asked.apply(pm));
         }
@@ -205,11 +182,36 @@ public final class ThoughtEdgesTest {
         EDGES.is("route(1, 0), 1 a minute farther", y.route(1, 0), 2);
         EDGES.is("route(1, -1), 1 a minute farther", y.route(1, -1), 10 + 32);
         EDGES.is("that (the latest: behind AT)", () -> told(), z -> z.route(0, -1), 42);
+        EDGES.sentence(10, "by the latest (rule 0), by all together (rule 1): the least");
+        // Five lie close together on one side, one a little nearer on the other.
+        WordChanged sides = new WordChanged();
+        for (int at : new int[] {50, 40, 62, 63, 64, 65, 66}) sides.post(at, 0);
+        EDGES.is("route(0, 0), the nearer side first", sides.route(0, 0), 1);
+        EDGES.is("route(0, -1)", sides.route(0, -1), 10 + 1 + 22 + 8);
+        EDGES.is("route(1, 0), the five first", sides.route(1, 0), 2);
+        EDGES.is("route(1, -1)", sides.route(1, -1), 12 + 14 + 16 + 18 + 20 + 47);
+        WordChanged last = new WordChanged();
+        for (int at : new int[] {50, 66, 65, 64, 63, 62, 40}) last.post(at, 0);
+        EDGES.is("route(0, 0), the nearer side has the last number", last.route(0, 0), 6);
+        EDGES.is("route(0, -1) of that", last.route(0, -1), 10 + 1 + 22 + 8);
+        EDGES.is("route(1, 0) of that", last.route(1, 0), 5);
+        EDGES.is("route(1, -1) of that", last.route(1, -1), 12 + 14 + 16 + 18 + 20 + 47);
+        WordChanged far = new WordChanged();
+        far.post(0, 0);
+        for (int i = 1; i < 7; i++) far.post(99, 99);
+        EDGES.is("route(0, -1) of the farthest", far.route(0, -1), 198 + 5);
+        EDGES.is("route(1, -1) of the farthest", far.route(1, -1), 6 * 198 + 15);
     }
 
     private static void letsInWhere() {
         pmRefused(11, "letsIn", pm -> (x, s) -> x.letsIn(s, pm));
         EDGES.sentence(11, "pm: 1000 times the POST, and the minute 0 .. 999");
+        WordChanged at0 = told();
+        at0.mend(0, 10, 0);
+        EDGES.is("letsIn(0, 0), AT 0", at0.letsIn(0, 0), 3);
+        EDGES.is("letsIn(0, 1000), AT 0", at0.letsIn(0, 1000), 1);
+        EDGES.is("letsIn(0, 999), 1 is not in the ROUTE", toldTo(2), x -> x.letsIn(0, 999), 2);
+        EDGES.is("letsIn(0, 1999), 1 is not in the ROUTE", toldTo(2), x -> x.letsIn(0, 1999), 1);
         EDGES.is("letsIn(0, 0)", told(), x -> x.letsIn(0, 0), 1);
         EDGES.is("letsIn(0, 999)", told(), x -> x.letsIn(0, 999), 2);
         EDGES.is("letsIn(0, 3000)", told(), x -> x.letsIn(0, 3000), 1);
@@ -264,6 +266,12 @@ public final class ThoughtEdgesTest {
         return x;
     }
 
+    private static WordChanged toldAt0() {
+        WordChanged x = told();
+        x.mend(0, 10, 0);
+        return x;
+    }
+
     private static void whichPatrol() {
         for (int patrol : new int[] {-2, 4, Integer.MIN_VALUE, Integer.MAX_VALUE}) {
             bad(12, "PATROLS 0 .. 3; SHOT (patrol -1)", "patrol(0, " + patrol + ")", (x, s) -> x.patrol(s, patrol));
@@ -278,6 +286,8 @@ public final class ThoughtEdgesTest {
         EDGES.is("BY 0 of none", Camp.bytes(new WordChanged(), 0), x -> x.patrol(0, 0), 0);
         EDGES.sentence(12, "SHOT (patrol -1): how many are not");
         EDGES.is("none", told(), x -> x.patrol(0, -1), 0);
+        EDGES.is("none, who know NEW", toldAt0(), x -> x.patrol(0, -1), 0);
+        EDGES.is("one alone", withPatrol(100, 109, 1), x -> x.patrol(0, -1), 1);
         EDGES.is("all", Camp.bytes(new WordChanged(), 0), x -> x.patrol(0, -1), 4);
     }
 
@@ -314,6 +324,12 @@ public final class ThoughtEdgesTest {
         x.mend(0, 11, 0);
         EDGES.is("by HOLDS 0 of now", x.holdsFor(0), 999);
         EDGES.is("HOLDS then", x.of(0, 11), 0);
+        EDGES.sentence(13, "all PATROLS 0 .. 3");
+        for (int patrol = 0; patrol < 4; patrol++) {
+            WordChanged one = told();
+            patrolIs(one, patrol, 0, 400, 3);
+            EDGES.is("PATROL " + patrol, one.holdsFor(0), 244);
+        }
         EDGES.sentence(13, "NOT");
         Supplier<WordChanged> early = () -> withPatrol(100, 109, 1);
         EDGES.refused("NEW a minute ahead", early, y -> y.holdsFor(0), NOT);
@@ -332,6 +348,9 @@ public final class ThoughtEdgesTest {
         EDGES.sentence(14, "at a POST 0 .. 6");
         EDGES.is("stranger(0, 1000, 0)", told(), x -> x.stranger(0, 1000, 0), 160);
         EDGES.is("stranger(0, 1000, 3)", told(), x -> x.stranger(0, 1000, 3), 217);
+        EDGES.is("stranger(0, 1000, 0), AT 0", toldAt0(), x -> x.stranger(0, 1000, 0), 60);
+        EDGES.is("stranger(0, 0, 0), AT 0", toldAt0(), x -> x.stranger(0, 0, 0), NOT);
+        EDGES.is("stranger(0, 999, 0), 1 is not in the ROUTE", toldTo(2), x -> x.stranger(0, 999, 0), NOT);
         EDGES.refused("stranger(0, 1000, 6) of seven", Camp::full, x -> x.stranger(0, 1000, 6), NOT);
         EDGES.refused("stranger(0, 1000, 7) of seven", Camp::full, x -> x.stranger(0, 1000, 7), BAD);
     }
@@ -418,6 +437,18 @@ public final class ThoughtEdgesTest {
         EDGES.is("all four then", withPatrol(100, 130, 2), x -> x.first(0, 1), 4);
         EDGES.is("one whom nothing helps", withPatrol(100, 129, 2), x -> x.first(0, 0), 1);
         EDGES.is("three then", withPatrol(100, 129, 2), x -> x.first(0, 1), 3);
+        EDGES.is("all who know NEW", toldAt0(), x -> x.first(0, 1), 4);
+        EDGES.sentence(16, "all others as in a ROUTE behind it");
+        // With 3 first it is heard in 105, 1 in 121 and 2 in 142.
+        for (int home : new int[] {141, 142}) {
+            WordChanged x = told();
+            patrolIs(x, 0, 100, 105, 3);
+            patrolIs(x, 1, 100, 121, 1);
+            patrolIs(x, 2, 100, home, 2);
+            EDGES.is("3, 1, 2 and one in " + home, x.first(0, 1), home == 142 ? 4 : 3);
+            EDGES.is("3, 1, 2 and one in " + home + ", the POST", x.first(0, 0), home == 142 ? 3 : 1);
+        }
+        EDGES.sentence(16, "that most PATROLS are LET IN: that; how many");
         EDGES.is("none", Camp.bytes(shotAll(), 0, 1), x -> x.first(0, 1), 0);
         EDGES.is("none, the POST", Camp.bytes(shotAll(), 0, 3, 1), x -> x.first(0, 0), 3);
     }
