@@ -47,6 +47,8 @@ public final class DeedEdgesTest {
         EDGES.is("tell(6) of seven", Camp::full, x -> x.tell(6), 0);
         EDGES.sentence(28, "what POST 0 has (heard right)");
         EDGES.is("what POST 3 has then", Camp::rich, x -> 100 * x.tell(3) + x.of(3, 12), 6);
+        EDGES.is("what POST 3 has, that mishears by seven of twelve", Camp::rich,
+            x -> x.law() + 100 * x.tell(3) + 10 * x.mishears(30) + x.of(3, 12), 1 + 70 + 6);
     }
 
     private static void waitSomeMinutes() {

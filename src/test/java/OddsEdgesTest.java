@@ -156,6 +156,9 @@ public final class OddsEdgesTest {
         EDGES.is("one", OddsEdgesTest::misheard, x -> x.twice(0, 1, 2), 8);
         is("ALL, one", OddsEdgesTest::misheard, (x, part) -> x.twice(0, 1, part), 7, 24);
         EDGES.is("two", OddsEdgesTest::misheard, x -> x.twice(0, 2, 2), 10);
+        EDGES.sentence(18, "a fraction; 0 by 1, where what is above the line is 0");
+        is("ALL, if one mishears always", () -> by("p=2?12", 1, 2, 3), (x, part) -> x.twice(0, 3, part), 0, 1);
+        is("ALL, if none mishears", () -> by("0", 1, 2, 3), (x, part) -> x.twice(0, 2, part), 1, 1);
         EDGES.sentence(18, "of like ones the least bits");
         EDGES.is("one of 3, 1, 2 alike", () -> by("6", 3, 1, 2), x -> x.twice(0, 1, 2), 2);
         EDGES.is("two of 3, 1, 2 alike", () -> by("6", 3, 1, 2), x -> x.twice(0, 2, 2), 6);

@@ -265,6 +265,19 @@ public final class SaidEdgesTest {
         EDGES.is("NEW stays", said(1, 110, 9), x -> x.oddWord(1) + x.of(0, 9), 10);
     }
 
+    private static void nothingIsMisheard() {
+        WordChanged x = said(3, 157, 1, 1, 110, 1);
+        EDGES.is("law() of 12", Camp.law(x, "12"), 1);
+        EDGES.sentence(22, "by which somebody was let in (no mishearing)");
+        EDGES.is("judge(1)", x.judge(1), NOT);
+        EDGES.sentence(23, "by which somebody was let in (no mishearing)");
+        EDGES.is("which(1, 1)", x.which(1, 1), 123);
+        EDGES.sentence(24, "by which somebody was let in (no mishearing)");
+        EDGES.is("when(1)", x.when(1), 0);
+        EDGES.sentence(25, "by which somebody was let in (no mishearing)");
+        EDGES.is("oddWord(1)", x.oddWord(1), 1);
+    }
+
     private static void drawnRefused() {
         EDGES.sentence(26, "n nights (1 .. 30)");
         for (int n : new int[] {0, -1, 31, 1000, Integer.MIN_VALUE}) {
@@ -372,6 +385,7 @@ public final class SaidEdgesTest {
         whichOfHowMany();
         whenIs0To999();
         oddWordIsTheLeast();
+        nothingIsMisheard();
         drawnRefused();
         drawnByASeed();
         patrolsOfDrawnNights();

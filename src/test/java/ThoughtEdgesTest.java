@@ -459,6 +459,26 @@ public final class ThoughtEdgesTest {
         return x;
     }
 
+    private static void nothingIsMisheard() {
+        WordChanged x = withPatrol(100, 157, 3);
+        EDGES.is("law() of 12", Camp.law(x, "12"), 1);
+        EDGES.sentence(9, "IN THOUGHT (no mishearing)");
+        EDGES.is("hears(0, 3)", x.hears(0, 3), 157);
+        EDGES.sentence(11, "IN THOUGHT (no mishearing)");
+        EDGES.is("letsIn(0, 3157)", x.letsIn(0, 3157), 3);
+        EDGES.sentence(12, "IN THOUGHT (no mishearing)");
+        EDGES.is("patrol(0, 3)", x.patrol(0, 3), 1);
+        EDGES.is("patrol(0, -1)", x.patrol(0, -1), 0);
+        EDGES.sentence(13, "IN THOUGHT (no mishearing)");
+        EDGES.is("holdsFor(0)", x.holdsFor(0), 0);
+        EDGES.sentence(14, "IN THOUGHT (no mishearing)");
+        EDGES.is("stranger(0, 1157, 3)", x.stranger(0, 1157, 3), NOT);
+        EDGES.sentence(15, "IN THOUGHT (no mishearing)");
+        EDGES.is("safe(0, 3157, 99)", x.safe(0, 3157, 99), 999);
+        EDGES.sentence(16, "IN THOUGHT (no mishearing)");
+        EDGES.is("first(0, 1)", x.first(0, 1), 4);
+    }
+
     private static void askedInThought() {
         EDGES.sentence(11, "in thought");
         EDGES.refused("letsIn(0, 1120)", Camp::rich, x -> x.letsIn(0, 1120), 3);
@@ -488,6 +508,7 @@ public final class ThoughtEdgesTest {
         strangerTillWhen();
         safeWhereAndWhen();
         firstOfWhat();
+        nothingIsMisheard();
         askedInThought();
         EDGES.end();
     }
