@@ -111,6 +111,18 @@ public final class ActsEdgesTest {
             x.act(0, 0, 0);
             return x;
         }, x -> x.trace(1), BAD);
+        EDGES.sentence(38, "the first 24 are kept");
+        // No ACT runs more than ten, so that all are.
+        for (int body = 0; body < 8; body++) {
+            for (int act = 0; act < 4; act++) {
+                WordChanged x = eight();
+                x.act(body, act, 5);
+                int ran = x.count(4);
+                String name = "of act(" + body + ", " + act + ", 5)";
+                EDGES.is("the last body " + name + " is kept", ran > 0 && x.trace(ran - 1) > 0 ? 1 : 0, 1);
+                EDGES.is("behind the last body " + name, x.trace(ran), BAD);
+            }
+        }
         EDGES.sentence(45, "4 bodies that ran in the latest act() (all)");
         EDGES.is("count(4)", ten, x -> x.count(4), 10);
         EDGES.is("count(4) of a new one", WordChanged::new, x -> x.count(4), 0);

@@ -19,7 +19,7 @@ final class Edges {
         due = new Due(name);
     }
 
-    /** The calls that follow are looked at for this sentence of the document. */
+    /** The calls that follow are looked at for these words of the document, some of them told shorter than there. */
     void sentence(int promise, String words) {
         sentence = "promise " + promise + ", \"" + words + "\": ";
     }
