@@ -1,4 +1,4 @@
-/** Promises 17 to 21: right, twice, word, odds, guess. */
+/** Promises 17 to 21: right, twice, word, odds, guess. Which SHELVES are refused: see the edges. */
 public final class OddsTest {
     private static final Due DUE = new Due("odds");
     private static final long NONE = Long.MIN_VALUE;
@@ -171,29 +171,12 @@ public final class OddsTest {
         DUE.is("21 part above", x.guess(0, 1120, 1, 2), NONE);
     }
 
-    private static void wrongShelves() {
-        WordChanged x = misheard();
-        Camp.shorts(x, 2, 1, 2, 3);
-        x.keep(3, x.body(0));
-        for (int s : new int[] {-1, 6, 1, 2, 3}) {
-            DUE.is("17 on shelf " + s, x.right(s, 1, 0, 0), NONE);
-            DUE.is("18 on shelf " + s, x.twice(s, 1, 0), NONE);
-            DUE.is("20 on shelf " + s, x.odds(s, 0, 0), NONE);
-            DUE.is("21 on shelf " + s, x.guess(s, 1120, 1, 0), NONE);
-        }
-        DUE.is("19 no shelf", x.word(6), -1);
-        DUE.is("19 nothing", x.word(1), -11);
-        DUE.is("19 shorts", x.word(2), -12);
-        DUE.is("19 a body", x.word(3), -12);
-    }
-
     public static void main(String[] args) {
         promise17Right();
         promise18Twice();
         promise19Word();
         promise20Odds();
         promise21Guess();
-        wrongShelves();
         DUE.end();
     }
 }

@@ -1,4 +1,4 @@
-/** Promises 22 to 26: judge, which, when, oddWord, drawn. */
+/** Promises 22 to 26: judge, which, when, oddWord, drawn. Which SHELVES are refused: see the edges. */
 public final class SaidTest {
     private static final Due DUE = new Due("said");
 
@@ -8,31 +8,6 @@ public final class SaidTest {
         x.mend(0, 10, 100);
         Camp.bytes(x, 0, 1, 2, 3);
         return Camp.shorts(x, 1, threes);
-    }
-
-    private static void wrongShelves() {
-        WordChanged x = said(1, 120, 1);
-        Camp.bytes(x, 2, 1, 2, 3);
-        x.keep(3, x.body(0));
-        int[] rs = {-1, 60, 6, 61, 16, 1000, 4, 41, 2, 3, 11, 31, 14, 34, 42, Integer.MAX_VALUE, Integer.MIN_VALUE};
-        int[] dues = {-1, -1, -1, -1, -1, -1, -11, -11, -12, -12, -12, -12, -11, -11, -11, -1, -1};
-        for (int i = 0; i < rs.length; i++) {
-            DUE.is("22 judge(" + rs[i] + ")", x.judge(rs[i]), dues[i]);
-            DUE.is("24 when(" + rs[i] + ")", x.when(rs[i]), dues[i]);
-            DUE.is("25 oddWord(" + rs[i] + ")", x.oddWord(rs[i]), dues[i]);
-        }
-        DUE.is("23 no shelf", x.which(6, 0), -1);
-        DUE.is("23 below", x.which(-1, 0), -1);
-        DUE.is("23 what above", x.which(1, 2), -1);
-        DUE.is("23 what below", x.which(1, -1), -1);
-        DUE.is("23 BAD ahead of -11", x.which(4, 2), -1);
-        DUE.is("23 nothing", x.which(4, 0), -11);
-        DUE.is("23 bytes", x.which(2, 0), -12);
-        DUE.is("23 a body", x.which(3, 0), -12);
-        DUE.is("26 no shelf", x.drawn(6, 1, 1, 0), -1);
-        DUE.is("26 nothing", x.drawn(4, 1, 1, 0), -11);
-        DUE.is("26 shorts", x.drawn(1, 1, 1, 0), -12);
-        DUE.is("26 BAD ahead of -11", x.drawn(4, 1, 0, 0), -1);
     }
 
     private static void judged(int want, long... threes) {
@@ -284,7 +259,6 @@ public final class SaidTest {
     }
 
     public static void main(String[] args) {
-        wrongShelves();
         promise22Judge();
         anyShelves();
         promise23Which();

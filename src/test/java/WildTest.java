@@ -106,11 +106,10 @@ public final class WildTest {
     /** All calls of a run have one room together: far below it stays what one object takes with the dearest of them. */
     private static void roomIsKept() {
         com.sun.management.ThreadMXBean beans = (com.sun.management.ThreadMXBean) ManagementFactory.getThreadMXBean();
-        long thread = Thread.currentThread().getId();
         dearestCalls(new WordChanged());
-        long before = beans.getThreadAllocatedBytes(thread);
+        long before = beans.getCurrentThreadAllocatedBytes();
         long sum = dearestCalls(new WordChanged());
-        long taken = beans.getThreadAllocatedBytes(thread) - before;
+        long taken = beans.getCurrentThreadAllocatedBytes() - before;
         DUE.isTrue("bytes of an object and its calls: " + taken + " (" + sum + ")", taken < 1000000);
     }
 
