@@ -1,4 +1,4 @@
-/** Promises 9 to 16: hears, route, letsIn, patrol, holdsFor, stranger, safe, first. Which SHELVES are refused: see the edges. */
+/** Promises 9 to 16: hears, route .. first. Which SHELVES are refused: see the edges. */
 public final class ThoughtTest {
     private static final Due DUE = new Due("thought");
 
